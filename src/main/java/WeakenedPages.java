@@ -12,6 +12,7 @@ public final class WeakenedPages {
     private static final int PAGES = 24;
     private static final int ABSENT = -1;
 
+    // Below 0, so that a place holds a page if what it holds is 0 or more.
     private static final int EMPTY = -1;
     private static final int STALE = -2;
 
@@ -45,6 +46,7 @@ public final class WeakenedPages {
     private static final int ERASURES_KEPT = 8;
     private static final int STATES_KEPT = 4;
     private static final int TEXT_LIMIT = 60;
+    // An order takes two signs and a comma, so a text has at most 20.
     private static final int ORDERS_LIMIT = 32;
     private static final int TIMES_LIMIT = 99;
     private static final int SOUND = -1;
@@ -1014,7 +1016,10 @@ public final class WeakenedPages {
         int parse() {
             number = 0;
             at = 0;
-            while (number < ORDERS_LIMIT && parseOrder()) {
+            for (int order = 0; order < ORDERS_LIMIT; order++) {
+                if (!parseOrder()) {
+                    return at;
+                }
                 if (at >= length) {
                     return SOUND;
                 }
@@ -1028,7 +1033,7 @@ public final class WeakenedPages {
 
         /** Takes one order; if it has a fault, 'at' is left there. */
         boolean parseOrder() {
-            if (at >= length) {
+            if (at >= length || number >= ORDERS_LIMIT) {
                 return false;
             }
             char letter = text[at];
