@@ -457,7 +457,10 @@ public final class CallsTest {
         is("100000", NOT_POSSIBLE, x.pass(1));
         is("in an order, too", NOT_POSSIBLE, Edges.perform(x, "t1"));
         is("its error", NOT_POSSIBLE, x.refusal(1));
-        is("the tick", 99999, x.count(0));
+        is("the tick stays", 99999, x.count(0));
+        is("nothing is recorded: ahead of the latest act", 3, x.undo());
+        is("the tick", 99990, x.count(0));
+        is("99999 again", 0, x.pass(9));
         is("keep() tells it", 99999, x.keep());
     }
 
@@ -570,12 +573,12 @@ public final class CallsTest {
         sentence("Returns how many orders there are; -100 minus the fault of the text if it has one (which is an error); "
             + "NOT_POSSIBLE if any order is refused when its turn comes.");
         WeakenedPages x = new WeakenedPages();
-        StringBuilder text = new StringBuilder();
         for (int orders = 1; orders <= 20; orders++) {
-            is("with a comma ahead", -100 - text.length(), Edges.perform(x, text.toString()));
-            text.append("t1");
-            is("orders", orders, Edges.perform(x, text.toString()));
-            text.append(',');
+            is("with a comma at the end", -100 - x.count(12), x.perform());
+            x.type('t');
+            x.type('1');
+            is("orders", orders, x.perform());
+            x.type(',');
         }
         is("ticks", 210, x.count(0));
         EDGES.changesNothing("a fault at the end", -104, y -> Edges.text(y, "w5,t0"), y -> y.perform());
@@ -790,7 +793,9 @@ public final class CallsTest {
         x.set(3, 0);
         x.set(4, 0);
         for (int left = reads; left > 0; left--) {
-            is("left", left, x.page(page, 3));
+            if (left == reads || left < 50) {
+                is("left", left, x.page(page, 3));
+            }
             is("allowed", 1, x.read(page));
         }
         is("none is left", 0, x.page(page, 3));

@@ -1747,7 +1747,6 @@ public final class TermsTest {
         EDGES.changesNothing("moveBlock, room for seven of eight", NOT_POSSIBLE, Edges::noneFree, x -> x.moveBlock(3));
         EDGES.changesNothing("pass", BAD_VALUE, TermsTest::busy, x -> x.pass(0));
         EDGES.changesNothing("pass", BAD_VALUE, TermsTest::busy, x -> x.pass(100));
-        EDGES.changesNothing("pass", NOT_POSSIBLE, TermsTest::lastTick, x -> x.pass(1));
     }
 
     private static void errorsOfTexts() {
