@@ -445,11 +445,7 @@ public final class CallsTest {
     private static void lastTick() {
         sentence("Returns how many pages are moved in them; BAD_VALUE; NOT_POSSIBLE if the tick would be more than 99999.");
         WeakenedPages x = new WeakenedPages();
-        Edges.text(x, "t99,t99,t99,t99,t99,t99,t99,t99,t99,t99,t99,t99,t99,t99,t99");
-        for (int call = 0; call < 67; call++) {
-            x.perform();
-        }
-        Edges.pass(x, 99990 - 67 * 15 * 99);
+        Edges.toLateTick(x, 99990);
         is("the tick", 99990, x.count(0));
         is("100000", NOT_POSSIBLE, x.pass(10));
         is("100089", NOT_POSSIBLE, x.pass(99));
@@ -746,7 +742,7 @@ public final class CallsTest {
     }
 
     private static void placeAndAge() {
-        sentence("- `page`: a page - `what`: 0 for the number of its place, 1 for its weakening, 2 for its age in ticks,");
+        sentence("- `what`: 0 for the number of its place, 1 for its weakening, 2 for its age in ticks,");
         WeakenedPages x = new WeakenedPages();
         x.set(2, 0);
         x.write(0);
@@ -1017,6 +1013,7 @@ public final class CallsTest {
         asTicksTell();
         upTo300();
         neverQuiet();
+        beyondTheLastTick();
     }
 
     private static void noneIsMarked() {
@@ -1104,6 +1101,19 @@ public final class CallsTest {
         is("one of two is always old", NONE, z.quietIn());
         z.set(2, 2);
         is("unless both can be moved", 1, z.quietIn());
+    }
+
+    /** Only pass() is said to be refused there, so its answer does not depend on how late it is. */
+    private static void beyondTheLastTick() {
+        sentence("Tells in how many ticks no block is marked any more, if only ticks pass.");
+        WeakenedPages x = new WeakenedPages();
+        Edges.toLateTick(x, 99998);
+        Edges.writes(x, 0, 3);
+        x.mark(0, true);
+        is("four ticks, of which one can pass", 4, x.quietIn());
+        is("pass", 1, x.pass(1));
+        is("three ticks, of which none can pass", 3, x.quietIn());
+        is("pass", NOT_POSSIBLE, x.pass(1));
     }
 
     // ---- Promise 22

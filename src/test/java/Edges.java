@@ -129,6 +129,15 @@ final class Edges {
         }
     }
 
+    /** A late tick of an object that is at tick 0 (99495 or later), with few calls. */
+    static void toLateTick(WeakenedPages x, int tick) {
+        text(x, "t99,t99,t99,t99,t99,t99,t99,t99,t99,t99,t99,t99,t99,t99,t99");
+        for (int call = 0; call < 67; call++) {
+            x.perform();
+        }
+        pass(x, tick - 67 * 15 * 99);
+    }
+
     /** Blocks of one kind, each erased so often: the only page wanders, as it is old after each tick. */
     static WeakenedPages worn(int kind, int erasures) {
         WeakenedPages x = new WeakenedPages();

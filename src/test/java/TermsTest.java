@@ -786,6 +786,22 @@ public final class TermsTest {
         z.pass(1);
         is("open", 0, z.count(3));
         is("by age", 1, z.block(0, 6));
+        markedAndStillOpen();
+    }
+
+    private static void markedAndStillOpen() {
+        sentence("The open block can be marked, too.");
+        WeakenedPages x = new WeakenedPages();
+        x.set(2, 0);
+        Edges.writes(x, 0, 8);
+        is("marked", 1, x.mark(1, true));
+        is("still open", 1, x.count(3));
+        is("a write goes there", 9, x.write(9));
+        is("moves go there", 8, x.moveBlock(0));
+        is("the first one", 10, x.page(0, 0));
+        is("the last one with room", 15, x.page(5, 0));
+        is("then to another block", 16, x.page(6, 0));
+        is("marked by the call", 1, x.block(1, 9));
     }
 
     // ---- MARKS AND MOVES: what a move is
@@ -1078,6 +1094,23 @@ public final class TermsTest {
         x.forget(9);
         x.pass(1);
         is("its lowest page", 25, x.page(10, 0));
+        theLowestIsThatOfTheLowestPlace();
+    }
+
+    private static void theLowestIsThatOfTheLowestPlace() {
+        sentence("To move a block is to move its pages, from the lowest place on,");
+        WeakenedPages x = new WeakenedPages();
+        x.write(9);
+        x.write(2);
+        x.write(5);
+        x.mark(0, true);
+        x.pass(1);
+        is("page 9 at place 0", 8, x.page(9, 0));
+        is("not yet page 2", 1, x.page(2, 0));
+        x.pass(1);
+        is("page 2 at place 1", 9, x.page(2, 0));
+        is("then page 5", 1, x.pass(1));
+        is("at place 2", 10, x.page(5, 0));
     }
 
     private static void erasedWithTheLastOfTheBudget() {
@@ -1625,6 +1658,13 @@ public final class TermsTest {
         x.keep();
         x.undo();
         is("undo() leaves the snapshot", 7, x.restore());
+        is("undo() of all that is left", 1, x.undo());
+        is("undo() of all that is left", 0, x.undo());
+        is("tick 0", 0, x.count(0));
+        is("five characters", 5, x.count(12));
+        is("the latest refusal", UNKNOWN, x.refusal(1));
+        is("the snapshot", 7, x.restore());
+        is("as often as asked for", 7, x.restore());
     }
 
     private static void allOfAState() {
@@ -1674,17 +1714,8 @@ public final class TermsTest {
         is("perform: a fault, and an order that would be refused", -105, x.perform());
         is("which was not", NONE, x.refusal(0));
         WeakenedPages last = new WeakenedPages();
-        lastTick(last);
+        Edges.toLateTick(last, 99999);
         is("pass: ticks, and the tick would be more than 99999", BAD_VALUE, last.pass(100));
-    }
-
-    /** Tick 99999. */
-    private static void lastTick(WeakenedPages x) {
-        Edges.text(x, "t99,t99,t99,t99,t99,t99,t99,t99,t99,t99,t99,t99,t99,t99,t99");
-        for (int call = 0; call < 67; call++) {
-            x.perform();
-        }
-        Edges.pass(x, 99999 - 67 * 15 * 99);
     }
 
     private static void noneOnlyWithoutErrors() {
