@@ -30,6 +30,7 @@ public final class CallsTest {
         erasure();
         count();
         setting();
+        nothingElseChanges();
         EDGES.end("CallsTest");
     }
 
@@ -1306,5 +1307,77 @@ public final class CallsTest {
         is("the last", 0, x.setting(4));
         x.undo();
         is("undone", 1, x.setting(4));
+    }
+
+    // ---- what an act leaves as it was
+
+    private static void nothingElseChanges() {
+        settingsChangeNothingElse();
+        kindsChangeNothingElse();
+        marksChangeNothingElse();
+        readsOfTheBufferChangeNothingElse();
+        ticksChangeNothingElse();
+        otherCallsChangeNothing();
+    }
+
+    private static void settingsChangeNothingElse() {
+        sentence("Sets a setting; if the buffer becomes smaller, pages that were read the longest ago leave it.");
+        EDGES.changesOnly("threshold", 75, Edges::busy, x -> x.set(0, 20), "setting(0)", 20);
+        EDGES.changesOnly("age", 200, Edges::busy, x -> x.set(1, 4), "setting(1)", 4);
+        EDGES.changesOnly("budget", 1, Edges::busy, x -> x.set(2, 8), "setting(2)", 8);
+        EDGES.changesOnly("greater buffer", 2, Edges::busy, x -> x.set(3, 4), "setting(3)", 4);
+        EDGES.changesOnly("smaller buffer", 2, Edges::busy, x -> x.set(3, 1), "setting(3)", 1, "count(9)", 1,
+            "page(1, 4)", NONE);
+        EDGES.changesOnly("no buffer", 2, Edges::busy, x -> x.set(3, 0), "setting(3)", 0, "count(9)", 0,
+            "page(1, 4)", NONE, "page(9, 4)", NONE);
+        EDGES.changesOnly("not at once", 1, Edges::busy, x -> x.set(4, 0), "setting(4)", 0);
+        EDGES.changesOnly("an age that is reached", 200, Edges::busy, x -> x.set(1, 3), "setting(1)", 3, "count(4)", 2,
+            "block(0, 6)", 1, "block(1, 6)", 1, "marked(0)", 0, "marked(1)", 1, "quietIn()", NONE);
+    }
+
+    private static void kindsChangeNothingElse() {
+        sentence("Makes a block one of another kind; its erasures stay.");
+        EDGES.changesOnly("tired", 1, Edges::busy, x -> x.setKind(4, 2), "block(4, 0)", 2, "block(4, 2)", 100);
+        EDGES.changesOnly("hard", 2, x -> {
+            Edges.busy(x);
+            x.set(0, 10);
+            x.mark(1, true);
+        }, x -> x.setKind(5, 0), "block(5, 0)", 0, "block(5, 2)", 400);
+    }
+
+    private static void marksChangeNothingElse() {
+        sentence("Marks a block by a call, or takes this mark back.");
+        EDGES.changesOnly("marked", 1, Edges::busy, x -> x.mark(1, true), "block(1, 6)", 1, "block(1, 9)", 1,
+            "count(4)", 1, "marked(0)", 1, "quietIn()", 4);
+        EDGES.changesOnly("taken back", 1, x -> {
+            Edges.busy(x);
+            x.mark(0, true);
+            x.mark(1, true);
+        }, x -> x.mark(0, false), "block(0, 6)", 0, "block(0, 9)", 0, "count(4)", 1, "marked(0)", 1, "marked(1)", NONE,
+            "quietIn()", 4);
+    }
+
+    private static void readsOfTheBufferChangeNothingElse() {
+        sentence("A read of a page that is in the buffer reads no place.");
+        EDGES.changesOnly("the latest", 0, Edges::busy, x -> x.read(9), "count(5)", 3, "count(6)", 1, "page(9, 5)", 2);
+        EDGES.changesOnly("the one before", 0, Edges::busy, x -> x.read(1), "count(5)", 3, "count(6)", 1, "page(1, 5)", 2,
+            "page(1, 4)", 0, "page(9, 4)", 1);
+    }
+
+    private static void ticksChangeNothingElse() {
+        sentence("Lets ticks pass.");
+        EDGES.changesOnly("one", 0, Edges::busy, x -> x.pass(1), "count(0)", 4, "page(0, 2)", 1, "page(1, 2)", 4,
+            "page(2, 2)", 4, "page(3, 2)", 4, "page(4, 2)", 4, "page(5, 2)", 4, "page(6, 2)", 4, "page(7, 2)", 4,
+            "page(8, 2)", 4, "page(9, 2)", 1, "page(10, 2)", 4);
+    }
+
+    private static void otherCallsChangeNothing() {
+        sentence("A state is everything but the text, the history, the snapshot and the latest refusal.");
+        EDGES.changesNothing("keep()", 3, Edges::busy, x -> x.keep());
+        EDGES.changesNothing("typed and cleared", 1, Edges::busy, x -> x.type('r') * x.clearText());
+        EDGES.changesNothing("a fault", -101, x -> {
+            Edges.busy(x);
+            Edges.text(x, "r");
+        }, x -> x.perform());
     }
 }

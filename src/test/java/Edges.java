@@ -1,3 +1,5 @@
+import java.util.LinkedHashMap;
+import java.util.Map;
 import java.util.function.Consumer;
 import java.util.function.ToIntFunction;
 
@@ -5,7 +7,7 @@ import java.util.function.ToIntFunction;
 final class Edges {
     static final int LOW = Integer.MIN_VALUE;
     static final int HIGH = Integer.MAX_VALUE;
-    private static final int HISTORY_INDEX = 11;
+    private static final String STATES = "count(11)";
 
     private final Due due = new Due();
     private String sentence = "";
@@ -35,7 +37,24 @@ final class Edges {
         same(what, without, with, true);
     }
 
-    /** The call must be recorded, and undo() must bring all of the state back. */
+    /** The call must answer so, be recorded once, and change only what is named here (label, new value, label ..). */
+    void changesOnly(String what, int answer, Consumer<WeakenedPages> run, ToIntFunction<WeakenedPages> call,
+        Object... changes) {
+        WeakenedPages with = new WeakenedPages();
+        WeakenedPages without = new WeakenedPages();
+        run.accept(with);
+        run.accept(without);
+        is(what + ": the answer", answer, call.applyAsInt(with));
+        Map<String, Integer> wanted = told(without);
+        wanted.put(STATES, Math.min(wanted.get(STATES) + 1, 4));
+        for (int index = 0; index < changes.length; index += 2) {
+            is(what + ": there is " + changes[index], 1, wanted.containsKey(changes[index]) ? 1 : 0);
+            wanted.put((String) changes[index], (Integer) changes[index + 1]);
+        }
+        compare(what, wanted, told(with));
+    }
+
+    /** The call must be recorded once, and undo() must bring all of the state back. */
     void isAnAct(String what, int answer, Consumer<WeakenedPages> run, ToIntFunction<WeakenedPages> call) {
         WeakenedPages with = new WeakenedPages();
         WeakenedPages without = new WeakenedPages();
@@ -46,53 +65,69 @@ final class Edges {
         is(what + ": states", Math.min(states + 1, 4), with.count(11));
         with.undo();
         same(what + ", undone", without, with, false);
+        lastButOneIsUnderIt(what, run, call);
+    }
+
+    private void lastButOneIsUnderIt(String what, Consumer<WeakenedPages> run, ToIntFunction<WeakenedPages> call) {
+        WeakenedPages with = new WeakenedPages();
+        WeakenedPages without = new WeakenedPages();
+        run.accept(with);
+        run.accept(without);
+        call.applyAsInt(with);
+        with.undo();
+        with.undo();
+        without.undo();
+        same(what + ", undone with the act ahead of it", without, with, false);
     }
 
     /** All that the two objects tell is the same (the number of states only if it is asked for). */
     void same(String what, WeakenedPages want, WeakenedPages got, boolean withHistory) {
-        int[] wanted = told(want);
-        int[] had = told(got);
-        for (int index = 0; index < wanted.length; index++) {
-            if (withHistory || index != HISTORY_INDEX) {
-                is(what + ": told " + index, wanted[index], had[index]);
-            }
+        Map<String, Integer> wanted = told(want);
+        if (!withHistory) {
+            wanted.remove(STATES);
+        }
+        compare(what, wanted, told(got));
+    }
+
+    private void compare(String what, Map<String, Integer> wanted, Map<String, Integer> had) {
+        for (Map.Entry<String, Integer> entry : wanted.entrySet()) {
+            is(what + ": " + entry.getKey(), entry.getValue(), had.get(entry.getKey()));
         }
     }
 
-    private static int[] told(WeakenedPages x) {
-        int[] told = new int[420];
-        int at = 0;
+    private static Map<String, Integer> told(WeakenedPages x) {
+        Map<String, Integer> told = new LinkedHashMap<>();
         for (int what = 0; what <= 12; what++) {
-            told[at++] = x.count(what);
+            told.put("count(" + what + ")", x.count(what));
         }
         for (int page = 0; page < 24; page++) {
             for (int what = 0; what <= 5; what++) {
-                told[at++] = x.page(page, what);
+                told.put("page(" + page + ", " + what + ")", x.page(page, what));
             }
         }
         for (int block = 0; block < 6; block++) {
             for (int what = 0; what <= 9; what++) {
-                told[at++] = x.block(block, what);
+                told.put("block(" + block + ", " + what + ")", x.block(block, what));
             }
             for (int place = 0; place < 8; place++) {
                 for (int what = 0; what <= 2; what++) {
-                    told[at++] = x.place(block, place, what);
+                    told.put("place(" + block + ", " + place + ", " + what + ")", x.place(block, place, what));
                 }
             }
-            told[at++] = x.marked(block);
+            told.put("marked(" + block + ")", x.marked(block));
         }
         for (int which = 0; which < 5; which++) {
-            told[at++] = x.setting(which);
+            told.put("setting(" + which + ")", x.setting(which));
         }
         for (int back = 0; back < 8; back++) {
             for (int what = 0; what <= 2; what++) {
-                told[at++] = x.erasure(back, what);
+                told.put("erasure(" + back + ", " + what + ")", x.erasure(back, what));
             }
         }
         for (int what = 0; what <= 2; what++) {
-            told[at++] = x.refusal(what);
+            told.put("refusal(" + what + ")", x.refusal(what));
         }
-        told[at] = x.quietIn();
+        told.put("quietIn()", x.quietIn());
         return told;
     }
 
@@ -127,6 +162,16 @@ final class Edges {
         for (int left = ticks; left > 0; left -= 99) {
             x.pass(Math.min(99, left));
         }
+    }
+
+    /** Eleven pages, of which two are in the buffer, in tick 3; no block is marked, and the history is full. */
+    static void busy(WeakenedPages x) {
+        writes(x, 0, 10);
+        x.pass(3);
+        x.write(0);
+        x.write(9);
+        x.read(1);
+        x.read(9);
     }
 
     /** A late tick of an object that is at tick 0 (99495 or later), with few calls. */

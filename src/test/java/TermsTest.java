@@ -726,6 +726,25 @@ public final class TermsTest {
         is("0 ticks", 0, x.block(0, 6));
         x.pass(1);
         is("1 tick", 1, x.block(0, 6));
+        theGreatestAge();
+    }
+
+    private static void theGreatestAge() {
+        sentence("1 the age (1 to 999 ticks; 200)");
+        WeakenedPages x = new WeakenedPages();
+        x.set(2, 0);
+        x.set(1, 999);
+        x.write(0);
+        for (int tick = 98; tick < 999; tick += 100) {
+            Edges.pass(x, tick - x.count(0));
+            is("tick " + tick, 0, x.count(4));
+        }
+        x.pass(1);
+        is("tick 999", 1, x.count(4));
+        for (int tick = 1000; tick < 4000; tick += 250) {
+            Edges.pass(x, tick - x.count(0));
+            is("tick " + tick, 1, x.count(4));
+        }
     }
 
     private static void anyPageIsOld() {
@@ -1565,39 +1584,29 @@ public final class TermsTest {
     private static void actsAreRecorded() {
         sentence("Each call of a method that is described as an act, and returns no error and not NONE, records the state "
             + "that was before it.");
-        EDGES.isAnAct("set", 75, TermsTest::busy, x -> x.set(0, 20));
-        EDGES.isAnAct("set the buffer", 2, TermsTest::busy, x -> x.set(3, 0));
-        EDGES.isAnAct("setKind", 1, TermsTest::busy, x -> x.setKind(4, 2));
-        EDGES.isAnAct("mark", 1, TermsTest::busy, x -> x.mark(1, true));
-        EDGES.isAnAct("write", 13, TermsTest::busy, x -> x.write(2));
-        EDGES.isAnAct("read", 1, TermsTest::busy, x -> x.read(2));
-        EDGES.isAnAct("read from the buffer", 0, TermsTest::busy, x -> x.read(1));
+        EDGES.isAnAct("set", 75, Edges::busy, x -> x.set(0, 20));
+        EDGES.isAnAct("set the buffer", 2, Edges::busy, x -> x.set(3, 0));
+        EDGES.isAnAct("setKind", 1, Edges::busy, x -> x.setKind(4, 2));
+        EDGES.isAnAct("mark", 1, Edges::busy, x -> x.mark(1, true));
+        EDGES.isAnAct("write", 13, Edges::busy, x -> x.write(2));
+        EDGES.isAnAct("read", 1, Edges::busy, x -> x.read(2));
+        EDGES.isAnAct("read from the buffer", 0, Edges::busy, x -> x.read(1));
         EDGES.isAnAct("read after a move", 2, TermsTest::weakBesideStrong, x -> x.read(1));
-        EDGES.isAnAct("forget", 10, TermsTest::busy, x -> x.forget(1));
-        EDGES.isAnAct("moveBlock", 7, TermsTest::busy, x -> x.moveBlock(0));
-        EDGES.isAnAct("pass", 0, TermsTest::busy, x -> x.pass(1));
+        EDGES.isAnAct("forget", 10, Edges::busy, x -> x.forget(1));
+        EDGES.isAnAct("moveBlock", 7, Edges::busy, x -> x.moveBlock(0));
+        EDGES.isAnAct("pass", 0, Edges::busy, x -> x.pass(1));
         EDGES.isAnAct("perform", 4, x -> {
-            busy(x);
+            Edges.busy(x);
             Edges.text(x, "w2,r2*3,t9,w23");
         }, x -> x.perform());
         EDGES.isAnAct("restore", 0, x -> {
             x.keep();
-            busy(x);
+            Edges.busy(x);
         }, x -> x.restore());
         EDGES.isAnAct("mark taken back", 0, x -> {
-            busy(x);
+            Edges.busy(x);
             x.mark(1, true);
         }, x -> x.mark(1, false));
-    }
-
-    /** Eleven pages, of which two are in the buffer, in tick 3; no block is marked, and the history is full. */
-    private static void busy(WeakenedPages x) {
-        Edges.writes(x, 0, 10);
-        x.pass(3);
-        x.write(0);
-        x.write(9);
-        x.read(1);
-        x.read(9);
     }
 
     private static void otherCallsAreNot() {
@@ -1671,8 +1680,8 @@ public final class TermsTest {
         sentence("A state is everything but the text, the history, the snapshot and the latest refusal.");
         WeakenedPages kept = new WeakenedPages();
         WeakenedPages other = new WeakenedPages();
-        busy(kept);
-        busy(other);
+        Edges.busy(kept);
+        Edges.busy(other);
         kept.keep();
         kept.set(1, 3);
         kept.setKind(5, 0);
@@ -1742,23 +1751,23 @@ public final class TermsTest {
 
     private static void errorsOfSettings() {
         sentence("A call that returns an error or NONE changes nothing (but for the latest refusal of perform()).");
-        EDGES.changesNothing("set", UNKNOWN, TermsTest::busy, x -> x.set(5, 1));
-        EDGES.changesNothing("set", BAD_VALUE, TermsTest::busy, x -> x.set(3, 5));
-        EDGES.changesNothing("set", NONE, TermsTest::busy, x -> x.set(3, 2));
-        EDGES.changesNothing("setKind", UNKNOWN, TermsTest::busy, x -> x.setKind(6, 0));
-        EDGES.changesNothing("setKind", BAD_VALUE, TermsTest::busy, x -> x.setKind(5, 3));
-        EDGES.changesNothing("setKind", NOT_POSSIBLE, TermsTest::busy, x -> x.setKind(0, 1));
-        EDGES.changesNothing("setKind", NONE, TermsTest::busy, x -> x.setKind(5, 2));
-        EDGES.changesNothing("mark", UNKNOWN, TermsTest::busy, x -> x.mark(-1, true));
-        EDGES.changesNothing("mark", NOT_POSSIBLE, TermsTest::busy, x -> x.mark(5, true));
-        EDGES.changesNothing("mark", NONE, TermsTest::busy, x -> x.mark(0, false));
+        EDGES.changesNothing("set", UNKNOWN, Edges::busy, x -> x.set(5, 1));
+        EDGES.changesNothing("set", BAD_VALUE, Edges::busy, x -> x.set(3, 5));
+        EDGES.changesNothing("set", NONE, Edges::busy, x -> x.set(3, 2));
+        EDGES.changesNothing("setKind", UNKNOWN, Edges::busy, x -> x.setKind(6, 0));
+        EDGES.changesNothing("setKind", BAD_VALUE, Edges::busy, x -> x.setKind(5, 3));
+        EDGES.changesNothing("setKind", NOT_POSSIBLE, Edges::busy, x -> x.setKind(0, 1));
+        EDGES.changesNothing("setKind", NONE, Edges::busy, x -> x.setKind(5, 2));
+        EDGES.changesNothing("mark", UNKNOWN, Edges::busy, x -> x.mark(-1, true));
+        EDGES.changesNothing("mark", NOT_POSSIBLE, Edges::busy, x -> x.mark(5, true));
+        EDGES.changesNothing("mark", NONE, Edges::busy, x -> x.mark(0, false));
         EDGES.changesNothing("undo", NONE, x -> x.type('r'), x -> x.undo());
-        EDGES.changesNothing("restore", NONE, TermsTest::busy, x -> x.restore());
+        EDGES.changesNothing("restore", NONE, Edges::busy, x -> x.restore());
     }
 
     private static void errorsOfPages() {
         sentence("A call that returns an error or NONE changes nothing (but for the latest refusal of perform()).");
-        EDGES.changesNothing("write", UNKNOWN, TermsTest::busy, x -> x.write(24));
+        EDGES.changesNothing("write", UNKNOWN, Edges::busy, x -> x.write(24));
         EDGES.changesNothing("write, none would be left", FULL, Edges::oneFree, x -> x.write(0));
         EDGES.changesNothing("write, none is left", FULL, Edges::noneFree, x -> x.write(0));
         EDGES.changesNothing("write, no room", FULL, Edges::noRoom, x -> x.write(0));
@@ -1766,29 +1775,29 @@ public final class TermsTest {
             Edges.rounds(x, 40);
             x.read(0);
         }, x -> x.write(0));
-        EDGES.changesNothing("read", UNKNOWN, TermsTest::busy, x -> x.read(-1));
-        EDGES.changesNothing("read, never written", UNKNOWN, TermsTest::busy, x -> x.read(23));
+        EDGES.changesNothing("read", UNKNOWN, Edges::busy, x -> x.read(-1));
+        EDGES.changesNothing("read, never written", UNKNOWN, Edges::busy, x -> x.read(23));
         EDGES.changesNothing("read, refused", NOT_POSSIBLE, Edges::stuck, x -> x.read(1));
-        EDGES.changesNothing("forget", UNKNOWN, TermsTest::busy, x -> x.forget(24));
-        EDGES.changesNothing("forget, never written", UNKNOWN, TermsTest::busy, x -> x.forget(23));
-        EDGES.changesNothing("moveBlock", UNKNOWN, TermsTest::busy, x -> x.moveBlock(6));
-        EDGES.changesNothing("moveBlock, free", NOT_POSSIBLE, TermsTest::busy, x -> x.moveBlock(5));
+        EDGES.changesNothing("forget", UNKNOWN, Edges::busy, x -> x.forget(24));
+        EDGES.changesNothing("forget, never written", UNKNOWN, Edges::busy, x -> x.forget(23));
+        EDGES.changesNothing("moveBlock", UNKNOWN, Edges::busy, x -> x.moveBlock(6));
+        EDGES.changesNothing("moveBlock, free", NOT_POSSIBLE, Edges::busy, x -> x.moveBlock(5));
         EDGES.changesNothing("moveBlock, not allowed", NOT_POSSIBLE, Edges::stuck, x -> x.moveBlock(0));
         EDGES.changesNothing("moveBlock, no room", NOT_POSSIBLE, Edges::noRoom, x -> x.moveBlock(3));
         EDGES.changesNothing("moveBlock, room for seven of eight", NOT_POSSIBLE, Edges::noneFree, x -> x.moveBlock(3));
-        EDGES.changesNothing("pass", BAD_VALUE, TermsTest::busy, x -> x.pass(0));
-        EDGES.changesNothing("pass", BAD_VALUE, TermsTest::busy, x -> x.pass(100));
+        EDGES.changesNothing("pass", BAD_VALUE, Edges::busy, x -> x.pass(0));
+        EDGES.changesNothing("pass", BAD_VALUE, Edges::busy, x -> x.pass(100));
     }
 
     private static void errorsOfTexts() {
         sentence("A call that returns an error or NONE changes nothing (but for the latest refusal of perform()).");
         EDGES.changesNothing("type", FULL, x -> Edges.text(x, "0123456789".repeat(6)), x -> x.type('r'));
         EDGES.changesNothing("perform, a fault", -106, x -> {
-            busy(x);
+            Edges.busy(x);
             Edges.text(x, "w3,t9,");
         }, x -> x.perform());
         EDGES.changesNothing("perform, refused before", NOT_POSSIBLE, x -> {
-            busy(x);
+            Edges.busy(x);
             Edges.text(x, "w3,t9,r9*7,r2*3,w4,r23");
             x.perform();
         }, x -> x.perform());
@@ -1800,21 +1809,21 @@ public final class TermsTest {
 
     private static void errorsOfQuestions() {
         sentence("A call that returns an error or NONE changes nothing (but for the latest refusal of perform()).");
-        EDGES.changesNothing("refusal", BAD_VALUE, TermsTest::busy, x -> x.refusal(3));
-        EDGES.changesNothing("refusal", NONE, TermsTest::busy, x -> x.refusal(0));
-        EDGES.changesNothing("page", UNKNOWN, TermsTest::busy, x -> x.page(24, 0));
-        EDGES.changesNothing("page", BAD_VALUE, TermsTest::busy, x -> x.page(0, 6));
-        EDGES.changesNothing("page", NONE, TermsTest::busy, x -> x.page(23, 0));
-        EDGES.changesNothing("block", UNKNOWN, TermsTest::busy, x -> x.block(6, 0));
-        EDGES.changesNothing("block", BAD_VALUE, TermsTest::busy, x -> x.block(0, 10));
-        EDGES.changesNothing("place", UNKNOWN, TermsTest::busy, x -> x.place(0, 8, 0));
-        EDGES.changesNothing("place", BAD_VALUE, TermsTest::busy, x -> x.place(0, 0, 3));
-        EDGES.changesNothing("marked", BAD_VALUE, TermsTest::busy, x -> x.marked(-1));
-        EDGES.changesNothing("marked", NONE, TermsTest::busy, x -> x.marked(0));
+        EDGES.changesNothing("refusal", BAD_VALUE, Edges::busy, x -> x.refusal(3));
+        EDGES.changesNothing("refusal", NONE, Edges::busy, x -> x.refusal(0));
+        EDGES.changesNothing("page", UNKNOWN, Edges::busy, x -> x.page(24, 0));
+        EDGES.changesNothing("page", BAD_VALUE, Edges::busy, x -> x.page(0, 6));
+        EDGES.changesNothing("page", NONE, Edges::busy, x -> x.page(23, 0));
+        EDGES.changesNothing("block", UNKNOWN, Edges::busy, x -> x.block(6, 0));
+        EDGES.changesNothing("block", BAD_VALUE, Edges::busy, x -> x.block(0, 10));
+        EDGES.changesNothing("place", UNKNOWN, Edges::busy, x -> x.place(0, 8, 0));
+        EDGES.changesNothing("place", BAD_VALUE, Edges::busy, x -> x.place(0, 0, 3));
+        EDGES.changesNothing("marked", BAD_VALUE, Edges::busy, x -> x.marked(-1));
+        EDGES.changesNothing("marked", NONE, Edges::busy, x -> x.marked(0));
         EDGES.changesNothing("quietIn", NONE, Edges::stuck, x -> x.quietIn());
-        EDGES.changesNothing("erasure", BAD_VALUE, TermsTest::busy, x -> x.erasure(0, 3));
-        EDGES.changesNothing("erasure", NONE, TermsTest::busy, x -> x.erasure(0, 0));
-        EDGES.changesNothing("count", BAD_VALUE, TermsTest::busy, x -> x.count(13));
-        EDGES.changesNothing("setting", UNKNOWN, TermsTest::busy, x -> x.setting(5));
+        EDGES.changesNothing("erasure", BAD_VALUE, Edges::busy, x -> x.erasure(0, 3));
+        EDGES.changesNothing("erasure", NONE, Edges::busy, x -> x.erasure(0, 0));
+        EDGES.changesNothing("count", BAD_VALUE, Edges::busy, x -> x.count(13));
+        EDGES.changesNothing("setting", UNKNOWN, Edges::busy, x -> x.setting(5));
     }
 }
